@@ -21,6 +21,9 @@ public final class AirTest {
         clogHalvesTheWholeMinute();
         minutes();
         groundAnew();
+        anewByThePhaseOfThen();
+        anewAtTheEnds();
+        anewInTheLastMinute();
         water();
         DUES.end();
     }
@@ -182,15 +185,17 @@ public final class AirTest {
         x.drops(18, 9, 1, 4);
         x.drops(19, 9, 2, 5);
         x.drops(18, 0, 1, 6);
+        x.drops(3, 8, 3, 7);
         x.drift(1, true);
         x.pass(1);
         DUES.due("one up", () -> x.count(19, 8, 1), 4);
+        DUES.due("the largest too", () -> x.count(4, 7, 3), 7);
         DUES.due("not twice", () -> x.water(3), 40);
         DUES.due("what lands does not drift", () -> x.ground(18), 6);
         DUES.due("none behind", () -> x.count(18, 8, 1), 0);
         x.pass(1);
         DUES.due("all left", () -> x.water(3), 44);
-        DUES.due("none in the air", () -> x.water(1), 0);
+        DUES.due("but the largest", () -> x.water(1), 189);
     }
 
     private static void driftDown() {
@@ -383,6 +388,61 @@ public final class AirTest {
         x.drops(0, 1, 1, 1);
         x.pass(5);
         DUES.due("nor on the other side", () -> x.groundAnew(0), 0);
+    }
+
+    private static void anewByThePhaseOfThen() {
+        Brightband x = new Brightband();
+        x.melt(9);
+        x.drift(4, true);
+        x.drops(5, 8, 3, 1);
+        x.pass(3);
+        DUES.due("water is down ahead of the drift", () -> x.groundAnew(5), 27);
+        x.melt(0);
+        x.drops(5, 8, 3, 1);
+        x.pass(8);
+        x.melt(9);
+        DUES.due("snow is in the air yet", () -> x.groundAnew(7), 0);
+        x.pass(1);
+        DUES.due("and comes down two drifts on, ahead of the third", () -> x.groundAnew(7), 27);
+        DUES.due("as it did", () -> x.ground(7), 27);
+        DUES.due("as before", () -> x.groundAnew(5), 27);
+    }
+
+    private static void anewAtTheEnds() {
+        Brightband x = new Brightband();
+        x.drift(1, false);
+        x.drops(1, 1, 1, 5);
+        x.drops(0, 9, 1, 7);
+        x.pass(1);
+        x.drift(1, true);
+        x.drops(18, 1, 1, 11);
+        x.drops(19, 9, 1, 13);
+        x.pass(1);
+        DUES.due("down to the first", () -> x.groundAnew(0), 5);
+        x.drift(1, false);
+        x.pass(1);
+        DUES.due("up to the last", () -> x.groundAnew(19), 11);
+        x.drift(0, true);
+        x.pass(10);
+        for (int kilometre = 0; kilometre < 20; kilometre++) {
+            int k = kilometre;
+            DUES.due("what has left stays away from " + k, () -> x.groundAnew(k), k == 0 ? 5 : k == 19 ? 11 : 0);
+        }
+        DUES.due("both have left", () -> x.water(3), 20);
+    }
+
+    private static void anewInTheLastMinute() {
+        Brightband x = new Brightband();
+        for (int i = 0; i < 9; i++) {
+            x.pass(60);
+        }
+        x.pass(59);
+        x.melt(9);
+        x.drops(3, 2, 3, 1);
+        x.drops(4, 3, 3, 1);
+        x.pass(1);
+        DUES.due("down in the minute 600", () -> x.groundAnew(3), 27);
+        DUES.due("not down any more", () -> x.groundAnew(4), 0);
     }
 
     private static void water() {

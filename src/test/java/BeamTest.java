@@ -82,6 +82,7 @@ public final class BeamTest {
             x.drops(16, layer, 3, 1000);
             x.drops(15, layer, 3, 1000);
         }
+        x.drops(17, 0, 3, 1000);
         DUES.due("in the layer 9", () -> x.echo(15, 2), 729000 / 4);
         DUES.due("in the layer 10", () -> x.echo(16, 2), 0);
         DUES.due("in the layer 14", () -> x.echo(16, 3), 0);
