@@ -1,9 +1,8 @@
-/** Promises 1 to 8, 11, 12 and 18 to 21: the air, the ground, gauges and the balance of water. */
+/** Promises 2 to 8, 11, 12 and 18 to 21 in ordinary use: the air, the ground, gauges and the balance of water. */
 public final class AirTest {
     private static final Dues DUES = new Dues("AirTest");
 
     public static void main(String[] args) {
-        newObject();
         dropsAndCount();
         hundredDrops();
         meltAndPhase();
@@ -26,45 +25,6 @@ public final class AirTest {
         anewInTheLastMinute();
         water();
         DUES.end();
-    }
-
-    private static void newObject() {
-        Brightband x = new Brightband();
-        for (int kilometre = 0; kilometre < 20; kilometre++) {
-            int k = kilometre;
-            for (int layer = 0; layer < 10; layer++) {
-                int l = layer;
-                for (int size = 1; size <= 3; size++) {
-                    int s = size;
-                    DUES.due("count of a new one", () -> x.count(k, l, s), 0);
-                }
-            }
-            for (int elevation = 0; elevation < 4; elevation++) {
-                int e = elevation;
-                DUES.due("echo of a new one", () -> x.echo(k, e), 0);
-                DUES.due("seen of a new one", () -> x.seen(k, e), 0);
-            }
-            DUES.due("ground of a new one", () -> x.ground(k), 0);
-            DUES.due("groundAnew of a new one", () -> x.groundAnew(k), 0);
-            DUES.due("rain of a new one", () -> x.rain(k), 0);
-            DUES.due("rainBy of a new one", () -> x.rainBy(k, 1), 0);
-            DUES.outside("collected of a new one", () -> x.collected(k));
-            DUES.due("hill of a new one", () -> x.hill(k, 0), 0);
-            DUES.due("gauge of a new one", () -> x.gauge(k, false), false);
-        }
-        for (int what = 0; what < 4; what++) {
-            int w = what;
-            DUES.due("water of a new one", () -> x.water(w), 0);
-        }
-        DUES.due("drift of a new one", () -> x.drift(0, true), 0);
-        DUES.due("melt of a new one", () -> x.melt(5), 5);
-        DUES.due("rule of a new one", () -> x.rule(10), 10);
-        DUES.tooMany("motion of a new one", () -> x.motion());
-        DUES.due("the first minute", () -> x.pass(1), 1);
-        DUES.compare("NONE", "" + Brightband.NONE, "-1");
-        DUES.compare("SNOW", "" + Brightband.SNOW, "0");
-        DUES.compare("MELTING", "" + Brightband.MELTING, "1");
-        DUES.compare("WATER", "" + Brightband.WATER, "2");
     }
 
     private static void dropsAndCount() {

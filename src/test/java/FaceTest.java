@@ -79,6 +79,7 @@ public final class FaceTest {
         }
         Collections.sort(face);
         DUES.compare("the face", face.toString(), faceOfTheDocument().toString());
+        DUES.compare("the constants", Brightband.NONE + " " + Brightband.SNOW + " " + Brightband.MELTING + " " + Brightband.WATER, "-1 0 1 2");
         DUES.compare("the class", Modifier.toString(Brightband.class.getModifiers()), "public final");
         for (Method method : Brightband.class.getDeclaredMethods()) {
             if (Modifier.isPrivate(method.getModifiers())) {

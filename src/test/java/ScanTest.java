@@ -1,4 +1,4 @@
-/** Promises 9, 10 and 15 to 17: scans, rules, rain and motion. */
+/** Promises 9, 10 and 15 to 17 in ordinary use: scans, rules, rain and motion. */
 public final class ScanTest {
     private static final Dues DUES = new Dues("ScanTest");
 
@@ -104,15 +104,13 @@ public final class ScanTest {
         DUES.due("not weakened", () -> x.rain(1), 100);
     }
 
-    private static final int[] LAYERS = {0, 0, 0, 0, 0, 0, 0, 0, 0, 0, 1, 1, 1, 1, 1, 2, 2, 2, 3, 3};
-
     /** An object with two scans of single echoes, one in a kilometre each. */
     private static Brightband scanned(int ahead, int latest) {
         Brightband x = new Brightband();
-        x.drops(ahead, LAYERS[ahead], 1, 50);
+        x.drops(ahead, Beams.LAYERS[0][ahead], 1, 50);
         x.scan(0);
         x.pass(10);
-        x.drops(latest, LAYERS[latest], 1, 50);
+        x.drops(latest, Beams.LAYERS[0][latest], 1, 50);
         x.scan(0);
         return x;
     }
